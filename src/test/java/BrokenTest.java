@@ -16,6 +16,7 @@ public final class BrokenTest {
         twoInOneTick();
         toldFogCounts();
         timeCounts();
+        timeAloneCounts();
         latestStays();
         againstTheOracle();
         DUE.end();
@@ -118,6 +119,25 @@ public final class BrokenTest {
         DUE.is("late, long after the FOG", y.broken(11, 10), 1);
         fogs(y, 1, 0);
         DUE.is("not yet", y.broken(10, 10), -1);
+    }
+
+    /** Behind TICK 2 nothing but the last tower's TIME is another one by FOG in TICK 1. */
+    private static void timeAloneCounts() {
+        String backAgain = "when own=1 do show 0; when left=blind do show 1;";
+        String[] ones = {"time=6", "6=time"};
+        for (String one : ones) {
+            HillArms x = line(3, "", "", backAgain + "when " + one + " do write 7;", 7);
+            DUE.is("FOG sets TIME back, asked by " + one, x.broken(7, 1), 1);
+            fogs(x, 1, 1);
+        }
+        String[] sums = {"time", "0+time", "time+time"};
+        int[] written = {4, 4, 8};
+        for (int i = 0; i < sums.length; i++) {
+            String rule = "when left=9 and a=0 do a is 1, write " + sums[i] + ";";
+            HillArms x = line(3, "", "when time=3 do show 9;", backAgain + rule, written[i]);
+            DUE.is("FOG sets TIME back, written by " + sums[i], x.broken(6, 1), 1);
+            fogs(x, 1, 1);
+        }
     }
 
     private static void latestStays() {

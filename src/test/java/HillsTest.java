@@ -30,6 +30,8 @@ public final class HillsTest {
         for (int n : wrong) {
             DUE.is("hills(" + n + ")", hills(x, n, 2, 4, 0), -2);
         }
+        DUE.is("two HILLS", hills(x, 2, 2, 0), -2);
+        DUE.is("fifteen HILLS", hills(x, 15, new int[15]), -2);
         DUE.is("no day", hills(x, 3), -2);
         DUE.is("half a day", hills(x, 3, 2, 4), -2);
         DUE.is("a day and a half", hills(x, 4, 2, 4, 8, 0, 2, 4), -2);
