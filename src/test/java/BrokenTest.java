@@ -22,19 +22,6 @@ public final class BrokenTest {
         DUE.end();
     }
 
-    private static HillArms line(int towers, String first, String others, String last, int... signs) {
-        HillArms x = new HillArms();
-        x.towers(towers);
-        String[] texts = {first, last, others};
-        for (int kind = 0; kind < 3; kind++) {
-            Tapes.put(x, texts[kind]);
-            DUE.is("no FAULT in " + texts[kind], x.program(kind) >= 0, true);
-        }
-        Tapes.put(x, signs);
-        DUE.is("message", x.message(), true);
-        return x;
-    }
-
     private static void fogs(HillArms x, int... due) {
         for (int i = 0; i < due.length; i++) {
             DUE.is("fogAt(" + i / 2 + ", " + i % 2 + ")", x.fogAt(i / 2, i % 2), due[i]);
@@ -61,7 +48,7 @@ public final class BrokenTest {
     }
 
     private static void fewest() {
-        HillArms x = line(3, FIRST, OTHERS, LAST, 5);
+        HillArms x = Tapes.line(3, FIRST, OTHERS, LAST, 5);
         DUE.is("not WHOLE anyway", x.broken(2, 3), 0);
         fogs(x);
         DUE.is("one does", x.broken(3, 3), 1);
@@ -71,19 +58,19 @@ public final class BrokenTest {
         DUE.is("two don't do", x.broken(5, 10), -1);
         DUE.is("no TICK for FOG", x.broken(3, 0), -1);
         DUE.is("no FOG in the TICKS that count", x.broken(4, 1), -1);
-        HillArms y = line(3, "", "", "");
+        HillArms y = Tapes.line(3, "", "", "");
         DUE.is("nothing to break", y.broken(60, 10), -1);
         DUE.is("T 0", y.broken(0, 10), -1);
-        HillArms z = line(3, "", "", "", 5);
+        HillArms z = Tapes.line(3, "", "", "", 5);
         DUE.is("T 0 with a MESSAGE", z.broken(0, 10), 0);
     }
 
     private static void twoInOneTick() {
-        HillArms x = line(4, "", "when left=blind and right=blind do show 9;",
+        HillArms x = Tapes.line(4, "", "when left=blind and right=blind do show 9;",
                 "when left=9 do write 1;");
         DUE.is("two FOGS round a tower", x.broken(5, 3), 2);
         fogs(x, 1, 1, 1, 2);
-        HillArms y = line(5, "", "when left=blind and right=blind and a=0 do a is 1;"
+        HillArms y = Tapes.line(5, "", "when left=blind and right=blind and a=0 do a is 1;"
                 + "when left=blind and a=1 do show 9;",
                 "when left=9 do write 1;");
         DUE.is("three are not sought", y.broken(9, 9), -1);
@@ -93,7 +80,7 @@ public final class BrokenTest {
     }
 
     private static void toldFogCounts() {
-        HillArms x = line(3, FIRST, OTHERS, LAST, 5);
+        HillArms x = Tapes.line(3, FIRST, OTHERS, LAST, 5);
         x.fog(0, 1, 1);
         DUE.is("told FOG breaks it", x.broken(3, 3), 0);
         DUE.is("one more does", x.broken(4, 3), 1);
@@ -105,7 +92,7 @@ public final class BrokenTest {
     private static void timeCounts() {
         // the last tower writes when it has shown nothing else for 6 TICKS: FOG sets that back
         String last = "when left=blind do show own+1; when time=6 do write 7;";
-        HillArms x = line(3, "", "", last, 7);
+        HillArms x = Tapes.line(3, "", "", last, 7);
         DUE.is("ahead of that", x.broken(6, 2), 0);
         DUE.is("in time", x.broken(7, 2), 1);
         fogs(x, 1, 1);
@@ -114,7 +101,7 @@ public final class BrokenTest {
         DUE.is("by two", x.broken(9, 2), -1);
         DUE.is("by three", x.broken(9, 3), 1);
         fogs(x, 3, 1);
-        HillArms y = line(3, "", "when left=blind do b is 1; when b=1 and time=9 do show 3;",
+        HillArms y = Tapes.line(3, "", "when left=blind do b is 1; when b=1 and time=9 do show 3;",
                 "when left=3 do write 1;");
         DUE.is("late, long after the FOG", y.broken(11, 10), 1);
         fogs(y, 1, 0);
@@ -126,7 +113,7 @@ public final class BrokenTest {
         String backAgain = "when own=1 do show 0; when left=blind do show 1;";
         String[] ones = {"time=6", "6=time"};
         for (String one : ones) {
-            HillArms x = line(3, "", "", backAgain + "when " + one + " do write 7;", 7);
+            HillArms x = Tapes.line(3, "", "", backAgain + "when " + one + " do write 7;", 7);
             DUE.is("FOG sets TIME back, asked by " + one, x.broken(7, 1), 1);
             fogs(x, 1, 1);
         }
@@ -134,14 +121,14 @@ public final class BrokenTest {
         int[] written = {4, 4, 8};
         for (int i = 0; i < sums.length; i++) {
             String rule = "when left=9 and a=0 do a is 1, write " + sums[i] + ";";
-            HillArms x = line(3, "", "when time=3 do show 9;", backAgain + rule, written[i]);
+            HillArms x = Tapes.line(3, "", "when time=3 do show 9;", backAgain + rule, written[i]);
             DUE.is("FOG sets TIME back, written by " + sums[i], x.broken(6, 1), 1);
             fogs(x, 1, 1);
         }
     }
 
     private static void latestStays() {
-        HillArms x = line(3, FIRST, OTHERS, LAST, 5);
+        HillArms x = Tapes.line(3, FIRST, OTHERS, LAST, 5);
         x.broken(4, 3);
         x.broken(61, 3);
         x.broken(60, 1);

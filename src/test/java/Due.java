@@ -2,12 +2,19 @@
 final class Due {
     private int asked;
     private int wrong;
+    private String sentence = "";
+
+    /** What comes next is held against these words, which must stand so in the document. */
+    void about(String words) {
+        sentence = "[" + words + "] ";
+        is("the document's words", Doc.says(words), true);
+    }
 
     void is(String call, long got, long want) {
         asked++;
         if (got != want) {
             wrong++;
-            System.out.println(call + " answered " + got + ", due is " + want);
+            System.out.println(sentence + call + " answered " + got + ", due is " + want);
         }
     }
 

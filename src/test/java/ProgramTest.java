@@ -3,7 +3,7 @@ public final class ProgramTest {
     private static final Due DUE = new Due();
     private static final String RULE = "when a=0 do sent;";
 
-    private final HillArms x = new HillArms();
+    private HillArms x = new HillArms();
 
     public static void main(String[] args) {
         ProgramTest test = new ProgramTest();
@@ -19,14 +19,14 @@ public final class ProgramTest {
     }
 
     private void good(String text, int rules) {
-        Tapes.put(x, text);
-        DUE.is("program(2) of " + text, x.program(2), rules);
+        x = new HillArms();
+        DUE.is("program(2) of " + text, Tapes.program(x, 2, text), rules);
         DUE.is("fault of " + text, x.fault(), 0);
     }
 
     private void bad(String text, int at, int kind) {
-        Tapes.put(x, text);
-        DUE.is("program(2) of " + text, x.program(2), -1 - at);
+        x = new HillArms();
+        DUE.is("program(2) of " + text, Tapes.program(x, 2, text), -1 - at);
         DUE.is("fault of " + text, x.fault(), kind);
     }
 

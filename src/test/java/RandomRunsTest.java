@@ -28,6 +28,8 @@ public final class RandomRunsTest {
         "when", "and", "do", "show", "is", "write", "sent", "left", "right", "own", "time", "word",
         "blind", "a", "b", "c", "d", "0", "1", "63", "99", "100", ";", ",", "+", "<", "=", ">", "#",
         " ", "\n", "\t", "e", "whenx", "a1", "1a", "A", "when a=0 do sent;", "when own < 5 do b is b+1;"};
+    // an object is good for 512 calls, and someCalls() makes 80 of them at most
+    private static final int CALLS = 430;
     private static final String[] LETTERS = {"a", "b", "to", "be", "or", "not", "the", "king", "is"};
 
     private final Random random;
@@ -35,6 +37,7 @@ public final class RandomRunsTest {
     private final HillArms x = new HillArms();
     private final Oracle y = new Oracle();
     private final String name;
+    private int calls;
 
     private RandomRunsTest(int seed, Due due) {
         random = new Random(seed);
@@ -44,11 +47,11 @@ public final class RandomRunsTest {
 
     public static void main(String[] args) {
         int from = args.length > 0 ? Integer.parseInt(args[0]) : 0;
-        int runs = args.length > 1 ? Integer.parseInt(args[1]) : 200;
+        int runs = args.length > 1 ? Integer.parseInt(args[1]) : 500;
         Due due = new Due();
         for (int seed = from; seed < from + runs; seed++) {
             RandomRunsTest test = new RandomRunsTest(seed, due);
-            for (int i = 0; i < 60; i++) {
+            while (test.calls < CALLS) {
                 test.someCalls();
             }
         }
@@ -73,6 +76,7 @@ public final class RandomRunsTest {
     }
 
     private void check(String call, long got, long want) {
+        calls++;
         due.is(name + call, got, want);
     }
 

@@ -16,6 +16,7 @@ public final class SlipsTest {
         DUE.is("49 times by 2", x.right(7, 7, 2), 1);
         DUE.is("50 times by 2", x.right(10, 5, 2), 0);
         for (int r = 2; r <= 2000; r += 37) {
+            x = new HillArms();
             for (int k = 1; k <= 60; k += 13) {
                 for (int m = 1; m <= 16; m += 5) {
                     DUE.is("right(" + k + ", " + m + ", " + r + ")", x.right(k, m, r), slow(k * m, r));
