@@ -17,6 +17,9 @@ public final class BrokenTest {
         toldFogCounts();
         timeCounts();
         timeAloneCounts();
+        timeInEveryRule();
+        sentAloneCounts();
+        whatIsWrittenAloneCounts();
         latestStays();
         againstTheOracle();
         DUE.end();
@@ -125,6 +128,43 @@ public final class BrokenTest {
             DUE.is("FOG sets TIME back, written by " + sums[i], x.broken(6, 1), 1);
             fogs(x, 1, 1);
         }
+    }
+
+    /** As above, but nothing else than TIME stands where it stands. */
+    private static void timeInEveryRule() {
+        String[] asked = {"when time>left and time<1 do show own+32; when time<own do show 0;"
+                + "when time=6 do write 7;",
+            "when left<time and 1>time do show own+32; when own>time do show 0; when 6=time do write 7;"};
+        for (String last : asked) {
+            HillArms x = Tapes.line(3, "", "", last, 7);
+            DUE.is("FOG sets TIME back: " + last, x.broken(7, 1), 1);
+            fogs(x, 1, 1);
+        }
+        String[] summed = {"when left=blind do show time+32; when own=32 do show time+0;"
+                + "when left=9 and a=0 do a is time+1, write time+3;",
+            "when left=blind do show 32+time; when own=32 do show 0+time;"
+                + "when left=9 and a=0 do a is 1+time, write 3+time;"};
+        for (String last : summed) {
+            HillArms x = Tapes.line(3, "", "when time=3 do show 9;", last, 7);
+            DUE.is("FOG sets TIME back: " + last, x.broken(6, 1), 1);
+            fogs(x, 1, 1);
+        }
+    }
+
+    /** Behind TICK 1 nothing but what is to be SENT is another one by FOG. */
+    private static void sentAloneCounts() {
+        HillArms x = Tapes.line(3, "when right=blind do sent; when time=3 do show word;",
+                "when left>0 do show left;", "when left>0 and a=0 do a is 1, write left;", 5);
+        DUE.is("FOG lets a SIGN out", x.broken(9, 1), 1);
+        fogs(x, 1, 0);
+    }
+
+    /** Behind TICK 2 nothing but the BOOK is another one by the second FOG. */
+    private static void whatIsWrittenAloneCounts() {
+        HillArms x = Tapes.line(3, "", "", "when left=blind and b=1 and c=0 do c is 1, write 2;"
+                + "when left=blind and b=0 do b is 1; when c=0 and time>0 do c is 1, write 1;", 1);
+        DUE.is("the second FOG turns a SIGN", x.broken(5, 2), 2);
+        fogs(x, 1, 1, 2, 1);
     }
 
     private static void latestStays() {

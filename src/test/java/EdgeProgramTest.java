@@ -261,9 +261,13 @@ public final class EdgeProgramTest {
         bad("when 0=0 do sent 1;", 17, 1);
         bad("when 0=0 do a 1;", 14, 1);
         bad("when 0=0 do show is 1;", 17, 1);
-        bad("when 0=0 do own is 1;", 12, 1);
-        bad("when 0=0 do time is 1;", 12, 1);
-        bad("when 0=0 do e is 1;", 12, 1);
+        String[] noCell = {"left", "right", "own", "time", "word", "blind", "when", "and", "do", "is", "e",
+            "7", "99", ";", ",", "+", "<", "=", ">", "#"};
+        for (String token : noCell) {
+            bad("when 0=0 do " + token + " is 1;", 12, 1);
+            bad("when 0=0 do " + token + " 1;", 12, 1);
+            bad("when 0=0 do " + token + ";", 12, 1);
+        }
         bad("when 0=0 do a = 1;", 14, 1);
     }
 
@@ -442,7 +446,7 @@ public final class EdgeProgramTest {
         String rules = "when own=1 do sent;".repeat(19) + "when own=0 do show 9;";
         String few = "when own=0 and a=0 do show 6;";
         HillArms y = new HillArms();
-        for (int round = 0; round < 4; round++) {
+        for (int round = 0; round < 2; round++) {
             becomes(y, ones, 1, 7);
             becomes(y, acts, 1, 8);
             becomes(y, rules, 20, 9);
